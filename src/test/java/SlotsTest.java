@@ -1,0 +1,132 @@
+/** Promise 9, and paragraph 4: whose a slot is. */
+public final class SlotsTest {
+  private static final Check check = new Check("SlotsTest");
+
+  public static void main(String[] args) {
+    refusesWrongOwners();
+    refreshHasTwoOfALine();
+    planesHaveFourOnLinesOfThePicture();
+    planesGoBeforeTheRest();
+    listHasEvenClocks();
+    processorGetsEachFourth();
+    processorWithoutLossStartsAnew();
+    moverFirst();
+    moverTakesWhatTheProcessorLeaves();
+    allTogetherMakeAFrame();
+    check.end();
+  }
+
+  private static void refusesWrongOwners() {
+    SlotBoard board = new SlotBoard();
+    board.run(10);
+    int[] wrong = {-1, 6, 7, Integer.MIN_VALUE, Integer.MAX_VALUE};
+    for (int owner : wrong) check.due("slots(" + owner + ")", board.slots(owner), -1);
+  }
+
+  private static void refreshHasTwoOfALine() {
+    SlotBoard board = new SlotBoard();
+    for (int i = 0; i < 8; i++) board.access(1, 0, 0);
+    check.due("line 0", Boards.owners(board, 12), "rcrccccccc--");
+    Boards.runTo(board, 32);
+    check.due("line 1", Boards.owners(board, 4), "r-r-");
+    check.due("slots(0)", board.slots(0), 24);
+    check.due("slots(1)", board.slots(1), 4);
+    check.due("slots(5)", board.slots(5), 8);
+    Boards.runTo(board, 0);
+    check.due("slots(1) of a frame", board.slots(1), 40);
+  }
+
+  private static void planesHaveFourOnLinesOfThePicture() {
+    SlotBoard board = new SlotBoard();
+    Boards.write(board, 0, 1);
+    int[] lines = {3, 4, 15, 16};
+    for (int line : lines) {
+      Boards.runTo(board, Boards.place(line, 0));
+      String due = line == 3 || line == 16 ? "r-r-----------------------------" : "r-r--------p---p---p---p--------";
+      check.due("line " + line, Boards.owners(board, 32), due);
+    }
+    check.due("slots(2)", board.slots(2), 48);
+  }
+
+  private static void planesGoBeforeTheRest() {
+    SlotBoard board = new SlotBoard();
+    Boards.write(board, 0, 13, 10, 256);
+    Boards.runTo(board, Boards.place(4, 0));
+    Boards.write(board, 25, 0);
+    Boards.runTo(board, Boards.place(4, 8));
+    board.access(1, 0, 0);
+    check.due("mover first", Boards.owners(board, 24), "mmmpmmmpmmmpmmmpmmmmmmmm");
+
+    board = new SlotBoard();
+    Boards.write(board, 0, 1);
+    Boards.runTo(board, Boards.place(6, 10));
+    for (int i = 0; i < 6; i++) board.access(1, 0, 0);
+    check.due("processor", Boards.owners(board, 10), "cpcccpcc-p");
+  }
+
+  private static void listHasEvenClocks() {
+    SlotBoard board = new SlotBoard();
+    for (int a = 0; a < 256; a++) board.set(a, 60);
+    Boards.queue(board, 0, 2, 2, 0);
+    check.due("line 0", Boards.owners(board, 10), "rcrcl-l-l-");
+    for (int i = 0; i < 4; i++) board.access(1, 0, 0);
+    check.due("with the processor", Boards.owners(board, 10), "lclclclcl-");
+    Boards.write(board, 10, 256, 0, 6, 25, 0);
+    Boards.runTo(board, 32);
+    board.access(1, 0, 0);
+    check.due("with the mover too", Boards.owners(board, 14), "rmrmlmlclmlmlm");
+  }
+
+  /** Slots of others lie between, but do not count. */
+  private static void processorGetsEachFourth() {
+    SlotBoard board = new SlotBoard();
+    Boards.write(board, 10, 256, 0, 4, 25, 0);
+    Boards.runTo(board, 31);
+    for (int i = 0; i < 4; i++) board.access(1, 0, 0);
+    check.due("owners", Boards.owners(board, 20), "mrmrmcmmmcmmmcmmmcmm");
+  }
+
+  private static void processorWithoutLossStartsAnew() {
+    SlotBoard board = new SlotBoard();
+    Boards.write(board, 10, 256, 0, 4, 25, 0);
+    Boards.runTo(board, 20);
+    board.access(1, 0, 0);
+    check.due("one access", Boards.owners(board, 6), "mmmcmm");
+    board.access(1, 0, 0);
+    check.due("another", Boards.owners(board, 5), "mmmcm");
+  }
+
+  private static void moverFirst() {
+    SlotBoard board = new SlotBoard();
+    Boards.write(board, 10, 256, 0, 12);
+    Boards.runTo(board, 10);
+    Boards.queue(board, 25, 0x18, 26, 1, 26, 2);
+    check.due("owners", Boards.owners(board, 14), "cmmmmmmmmcc---");
+  }
+
+  private static void moverTakesWhatTheProcessorLeaves() {
+    SlotBoard board = new SlotBoard();
+    Boards.write(board, 10, 256);
+    Boards.runTo(board, 10);
+    Boards.queue(board, 25, 0x13, 0, 4);
+    check.due("mover off, then on", Boards.owners(board, 8), "ccmmm---");
+  }
+
+  private static void allTogetherMakeAFrame() {
+    SlotBoard board = new SlotBoard();
+    Boards.setFrom(board, 0, 14, 1, 0xffff, 0);
+    Boards.write(board, 10, 256, 0, 7, 25, 0);
+    board.access(0, 200, 1);
+    Boards.runTo(board, 0);
+    board.run(640);
+    int sum = 0;
+    for (int owner = 0; owner < 6; owner++) sum += board.slots(owner);
+    check.due("all slots", sum, 1280);
+    check.due("slots(1)", board.slots(1), 80);
+    check.due("slots(2)", board.slots(2), 96);
+    check.due("slots(3)", board.slots(3), 4);
+    check.due("slots(4)", board.slots(4), 128);
+    check.due("slots(5)", board.slots(5), 4);
+    check.due("slots(0)", board.slots(0), 1280 - 80 - 96 - 4 - 128 - 4);
+  }
+}
