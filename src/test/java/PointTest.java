@@ -17,8 +17,6 @@ public final class PointTest {
     check.end();
   }
 
-  private static int colourAt(SlotBoard board, int x, int y) { return board.point(x, y); }
-
   private static void refusesWrongPoints() {
     SlotBoard board = new SlotBoard();
     Boards.write(board, 6, 5);
@@ -98,7 +96,7 @@ public final class PointTest {
           int at = 5 * y + x / 16;
           int bit0 = words[base0 + at & 255] >> 15 - x % 16 & 1;
           int bit1 = words[base1 + at & 255] >> 15 - x % 16 & 1;
-          check.due("frame " + frame + " point(" + x + ", " + y + ")", colourAt(board, x, y),
+          check.due("frame " + frame + " point(" + x + ", " + y + ")", board.point(x, y),
               0x111 * (1 + bit0 + 2 * bit1));
         }
       }
