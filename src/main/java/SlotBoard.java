@@ -397,13 +397,14 @@ public final class SlotBoard {
 
     /** The list of moves and waits that follows the beam. */
     private static final class BeamList {
+        static final int STOPPED = 0;
         static final int FETCH = 1;
         static final int WAITING = 2;
 
         private static final int TARGET_BITS = 1023;
         private static final int NUMBER_BITS = 31;
 
-        private int state;
+        private int state = STOPPED;
         private int address;
         private int first;
         private int target;

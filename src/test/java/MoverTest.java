@@ -27,6 +27,8 @@ public final class MoverTest {
     endsWithARequest();
     modulosOfUsedChannelsAlone();
     wordsBeforeGoOverRows();
+    wordsBeforeAreZeroAtBegin();
+    zeroOfATermThatIsOneOutsideTheWord();
     check.end();
   }
 
@@ -382,5 +384,24 @@ public final class MoverTest {
     finish(board);
     check.due("word(50) of B", board.word(50), 0);
     check.due("word(51) of B without masks", board.word(51), 0xf00f);
+  }
+
+  private static void wordsBeforeAreZeroAtBegin() {
+    SlotBoard board = new SlotBoard();
+    Boards.write(board, 20, 65535, 21, 65535, 22, 65535, 23, 65535, 25, 0x11);
+    finish(board);
+    Boards.write(board, 10, 0x4000 | D | 0xf0, 15, 50, 25, 0x11);
+    finish(board);
+    check.due("word(50) of A", board.word(50), 0x0fff);
+    Boards.write(board, 11, 8, 10, D | 0xcc, 15, 50, 25, 0x11);
+    finish(board);
+    check.due("word(50) of B", board.word(50), 0x00ff);
+  }
+
+  private static void zeroOfATermThatIsOneOutsideTheWord() {
+    SlotBoard board = new SlotBoard();
+    Boards.write(board, 10, 1, 24, 65535, 25, 0x11);
+    finish(board);
+    check.due("look(3)", board.look(3), 1);
   }
 }

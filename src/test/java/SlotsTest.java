@@ -12,6 +12,7 @@ public final class SlotsTest {
     processorWithoutLossStartsAnew();
     moverFirst();
     moverTakesWhatTheProcessorLeaves();
+    eachControlBitSwitchesItsOwn();
     allTogetherMakeAFrame();
     check.end();
   }
@@ -110,6 +111,41 @@ public final class SlotsTest {
     Boards.runTo(board, 10);
     Boards.queue(board, 25, 0x13, 0, 4);
     check.due("mover off, then on", Boards.owners(board, 8), "ccmmm---");
+  }
+
+  /** Planes, list, mover and processor all could take slots of line 4: which do, CONTROL says. */
+  private static void eachControlBitSwitchesItsOwn() {
+    for (int control = 0; control < 16; control++) {
+      SlotBoard board = new SlotBoard();
+      for (int a = 0; a < 256; a++) board.set(a, 60);
+      Boards.write(board, 2, 0, 25, 0);
+      Boards.runTo(board, Boards.place(4, 9));
+      board.access(2, 0, control);
+      check.due("CONTROL " + control, Boards.owners(board, 15), ownersOf(control));
+    }
+    for (int control = 4; control < 8; control++) {
+      check.due("FIRST is 0 in " + control, ownersWithAccess(control).indexOf('c') >= 0, true);
+      check.due("FIRST is 1 in " + (8 | control), ownersWithAccess(8 | control).indexOf('c') >= 0, false);
+    }
+  }
+
+  private static String ownersOf(int control) {
+    StringBuilder due = new StringBuilder("c");
+    for (int clock = 10; clock < 24; clock++) {
+      boolean planes = (control & 1) != 0 && clock % 4 == 3;
+      boolean list = (control & 2) != 0 && clock % 2 == 0;
+      boolean mover = (control & 4) != 0;
+      due.append(planes ? 'p' : list ? 'l' : mover ? 'm' : '-');
+    }
+    return due.toString();
+  }
+
+  private static String ownersWithAccess(int control) {
+    SlotBoard board = new SlotBoard();
+    Boards.write(board, 25, 0, 0, control);
+    Boards.runTo(board, 10);
+    board.access(1, 0, 0);
+    return Boards.owners(board, 20);
   }
 
   private static void allTogetherMakeAFrame() {
