@@ -6,6 +6,10 @@ public final class AccessTest {
     refusesWrongInputs();
     takesEdges();
     holdsEight();
+    refusedWhenFullLeavesAllAsItWas();
+    refusedInputsLeaveTheQueueAsItWas();
+    staysFull();
+    emptyQueueWantsNoSlot();
     doesThemInTheirOrder();
     keepsLowestBits();
     goesRoundAndRound();
@@ -68,6 +72,73 @@ public final class AccessTest {
     check.due("word(21)", board.word(21), 1);
     check.due("word(22)", board.word(22), 0);
     check.due("slots(5)", board.slots(5), 9);
+  }
+
+  /** Each kind is refused at eight, and neither its turn nor a later one ever does it. */
+  private static void refusedWhenFullLeavesAllAsItWas() {
+    SlotBoard board = new SlotBoard();
+    for (int i = 0; i < 8; i++) board.access(0, i, 100 + i);
+    check.due("a ninth STORE", board.access(0, 0, 9), false);
+    check.due("a ninth LOAD", board.access(1, 0, 9), false);
+    check.due("a ninth WRITE", board.access(2, 20, 9), false);
+    check.due("a ninth of a wrong kind", board.access(3, 0, 9), false);
+    check.due("a ninth at a wrong address", board.access(0, 256, 9), false);
+    board.run(40);
+    for (int i = 0; i < 8; i++) check.due("word(" + i + ")", board.word(i), 100 + i);
+    check.due("look(4)", board.look(4), 0);
+    check.due("look(5)", board.look(5), 0);
+    check.due("look(6)", board.look(6), 0);
+    check.due("register(20)", board.register(20), 0);
+    check.due("slots(5)", board.slots(5), 8);
+    check.due("access to the empty queue", board.access(0, 0, 9), true);
+  }
+
+  private static void refusedInputsLeaveTheQueueAsItWas() {
+    SlotBoard board = new SlotBoard();
+    board.access(0, 5, 50);
+    board.access(3, 5, 51);
+    board.access(-1, 5, 52);
+    board.access(0, 256, 53);
+    board.access(0, -1, 54);
+    board.access(2, 32, 55);
+    board.access(2, -1, 56);
+    check.due("look(4)", board.look(4), 1);
+    board.access(1, 5, 0);
+    check.due("look(4) behind a right one", board.look(4), 2);
+    board.run(20);
+    check.due("look(5)", board.look(5), 50);
+    check.due("word(5)", board.word(5), 50);
+    check.due("word(0)", board.word(0), 0);
+    check.due("word(255)", board.word(255), 0);
+    check.due("register(0)", board.register(0), 0);
+    check.due("slots(5)", board.slots(5), 2);
+  }
+
+  /** For each one that is done another comes, so the queue has eight all the time. */
+  private static void staysFull() {
+    SlotBoard board = new SlotBoard();
+    board.run(3);
+    for (int i = 0; i < 8; i++) board.access(0, i, 1000 + i);
+    for (int i = 8; i < 36; i++) {
+      check.due("access " + i + " while full", board.access(0, 200, 1), false);
+      for (int clock = 0; board.look(4) == 8 && clock < 4; clock++) board.run(1);
+      check.due("access " + i, board.access(0, i, 1000 + i), true);
+      check.due("look(4)", board.look(4), 8);
+    }
+    board.run(20);
+    for (int i = 0; i < 36; i++) check.due("word(" + i + ")", board.word(i), 1000 + i);
+    check.due("word(200)", board.word(200), 0);
+    check.due("slots(5)", board.slots(5), 36);
+  }
+
+  private static void emptyQueueWantsNoSlot() {
+    SlotBoard board = new SlotBoard();
+    check.due("run(640)", board.run(640), 600);
+    check.due("slots(5)", board.slots(5), 0);
+    board.run(3);
+    board.access(0, 1, 1);
+    check.due("run(5) with one access", board.run(5), 4);
+    check.due("slots(5) behind it", board.slots(5), 1);
   }
 
   private static void doesThemInTheirOrder() {

@@ -7,8 +7,11 @@ public final class LookTest {
     requestsComeAndGo();
     enabledRequests();
     moverIsBusy();
+    requestsThatAreThereStay();
     queueAndLoads();
+    loadedWordsAreWhole();
     listAndItsPlace();
+    listsPlaceGoesRound();
     check.end();
   }
 
@@ -71,6 +74,35 @@ public final class LookTest {
     check.due("look(3) behind the last word", board.look(3), 0);
   }
 
+  /** A second frame and a second move request what is requested already. */
+  private static void requestsThatAreThereStay() {
+    SlotBoard board = new SlotBoard();
+    Boards.write(board, 0, 4, 25, 0x11);
+    board.run(1);
+    check.due("look(0)", board.look(0), 3);
+    Boards.write(board, 25, 0x11);
+    check.due("look(0) while BUSY again", board.look(0), 3);
+    board.run(1);
+    check.due("look(2) behind a second move", board.look(2), 0);
+    check.due("look(0) behind a second move", board.look(0), 3);
+    board.run(640);
+    check.due("frames()", board.frames(), 2);
+    check.due("look(0) in a second frame", board.look(0), 3);
+  }
+
+  private static void loadedWordsAreWhole() {
+    SlotBoard board = new SlotBoard();
+    board.set(0, 65535);
+    board.set(255, 0x8001);
+    board.access(1, 0, 5);
+    board.run(2);
+    check.due("look(5) from 0", board.look(5), 65535);
+    board.access(1, 255, 6);
+    board.run(2);
+    check.due("look(5) from 255", board.look(5), 0x8001);
+    check.due("word(255)", board.word(255), 0x8001);
+  }
+
   private static void queueAndLoads() {
     SlotBoard board = new SlotBoard();
     board.set(4, 44);
@@ -115,5 +147,17 @@ public final class LookTest {
     board.run(1);
     check.due("look(7) WAITING", board.look(7), 2);
     check.due("look(8) WAITING", board.look(8), 104);
+  }
+
+  private static void listsPlaceGoesRound() {
+    SlotBoard board = new SlotBoard();
+    Boards.write(board, 1, 255, 0, 2, 2, 0);
+    Boards.runTo(board, 11);
+    Boards.write(board, 2, 0);
+    check.due("look(8) at START", board.look(8), 255);
+    board.run(1);
+    check.due("look(8) behind 255", board.look(8), 0);
+    board.run(2);
+    check.due("look(8) behind 0", board.look(8), 1);
   }
 }

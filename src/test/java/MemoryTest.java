@@ -7,6 +7,7 @@ public final class MemoryTest {
     setIsAtOnce();
     keepsLowestBits();
     refusesWrongAddresses();
+    wrongAddressesLeaveTheEdgesAsTheyWere();
     check.end();
   }
 
@@ -44,5 +45,17 @@ public final class MemoryTest {
       check.due("word(" + a + ")", board.word(a), -1);
     }
     for (int a = 0; a < 256; a++) check.due("word(" + a + ")", board.word(a), 0);
+  }
+
+  private static void wrongAddressesLeaveTheEdgesAsTheyWere() {
+    SlotBoard board = new SlotBoard();
+    check.due("set(0, 10)", board.set(0, 10), true);
+    check.due("set(255, 20)", board.set(255, 20), true);
+    check.due("set(-1, 30)", board.set(-1, 30), false);
+    check.due("set(256, 40)", board.set(256, 40), false);
+    check.due("word(0)", board.word(0), 10);
+    check.due("word(255)", board.word(255), 20);
+    check.due("word(-1)", board.word(-1), -1);
+    check.due("word(256)", board.word(256), -1);
   }
 }

@@ -13,19 +13,26 @@ public final class MoverTest {
     sizeTakesItsBitsAlone();
     eachUsedChannelTakesASlot();
     masksOfOneWord();
+    masksOfTheWidestRow();
+    smallestAndLargestShifts();
+    channelsGoRound();
     fetchLeavesDataAlone();
     resultWithoutD();
     fetchedWordsStayForLaterMoves();
+    fetchedWordsOfBStay();
     fetchedWordIsNotData();
     channelsThatAreUsedNoMore();
     channelUsedLate();
     registersCountInEachSlot();
+    firstMaskOfTheLastSlotCounts();
     pointersCountInEachSlot();
     sizeCountsAtBegin();
     beginsAnewWhileBusy();
+    beginsAnewWithTheFirstRow();
     stopsWhileMoverIsOff();
     endsWithARequest();
     modulosOfUsedChannelsAlone();
+    modulosOfTheLastSlotCount();
     wordsBeforeGoOverRows();
     wordsBeforeAreZeroAtBegin();
     zeroOfATermThatIsOneOutsideTheWord();
@@ -138,8 +145,8 @@ public final class MoverTest {
   }
 
   private static void sizesOfZero() {
-    int[] sizes = {0x00, 0x10, 0x01, 0x77, 0xf7, 0x08, 0xff80};
-    int[] words = {128, 8, 16, 49, 105, 128, 64};
+    int[] sizes = {0x00, 0x10, 0x01, 0x11, 0x77, 0xf7, 0xffff, 0x08, 0xff08, 0xff80};
+    int[] words = {128, 8, 16, 1, 49, 105, 105, 128, 128, 64};
     for (int i = 0; i < sizes.length; i++) {
       SlotBoard board = new SlotBoard();
       Boards.write(board, 10, D, 25, sizes[i]);
@@ -177,6 +184,57 @@ public final class MoverTest {
     finish(board);
     int[] due = {0x0ff0, 65535, 0xff00, 0x0ff0, 65535, 0xff00, 0};
     for (int i = 0; i < due.length; i++) check.due("word(" + (60 + i) + ")", board.word(60 + i), due[i]);
+  }
+
+  /** WIDTH 0 stands for 8: the masks are for words 0 and 7 of each row. */
+  private static void masksOfTheWidestRow() {
+    SlotBoard board = new SlotBoard();
+    Boards.write(board, 10, D | 0xf0, 20, 0x00ff, 21, 0xff00, 22, 65535, 15, 50, 25, 0x20);
+    finish(board);
+    for (int i = 0; i < 16; i++) {
+      int due = i % 8 == 0 ? 0x00ff : i % 8 == 7 ? 0xff00 : 65535;
+      check.due("word(" + (50 + i) + ")", board.word(50 + i), due);
+    }
+    check.due("word(66)", board.word(66), 0);
+  }
+
+  private static void smallestAndLargestShifts() {
+    int[] shifts = {0, 1, 15};
+    int[][] due = {{0x8001, 0x4002}, {0x4000, 0xa001}, {0x0001, 0x0002}};
+    for (int i = 0; i < shifts.length; i++) {
+      SlotBoard board = new SlotBoard();
+      Boards.setFrom(board, 0, 0x8001, 0x4002);
+      Boards.write(board, 20, 65535, 21, 65535, 10, shifts[i] << 12 | A | D | 0xf0, 15, 50, 25, 0x12);
+      finish(board);
+      check.due("word(50) of A with shift " + shifts[i], board.word(50), due[i][0]);
+      check.due("word(51) of A with shift " + shifts[i], board.word(51), due[i][1]);
+      Boards.write(board, 11, 0xfff0 | shifts[i], 10, B | D | 0xcc, 15, 60, 25, 0x12);
+      finish(board);
+      check.due("word(60) of B with shift " + shifts[i], board.word(60), due[i][0]);
+      check.due("word(61) of B with shift " + shifts[i], board.word(61), due[i][1]);
+    }
+  }
+
+  private static void channelsGoRound() {
+    int[] terms = {0xf0, 0xcc, 0xaa};
+    for (int channel = 0; channel < 3; channel++) {
+      SlotBoard board = new SlotBoard();
+      Boards.setFrom(board, 255, 0x1111, 0x2222);
+      Boards.write(board, 20, 65535, 21, 65535, 12 + channel, 255, 15, 50);
+      Boards.write(board, 10, A << channel | D | terms[channel], 25, 0x12);
+      finish(board);
+      check.due("word(50) of channel " + channel, board.word(50), 0x1111);
+      check.due("word(51) of channel " + channel, board.word(51), 0x2222);
+      check.due("pointer " + channel, board.register(12 + channel), 1);
+    }
+    SlotBoard board = new SlotBoard();
+    Boards.write(board, 10, D | 0xff, 15, 255, 25, 0x12);
+    finish(board);
+    check.due("word(254)", board.word(254), 0);
+    check.due("word(255)", board.word(255), 65535);
+    check.due("word(0)", board.word(0), 65535);
+    check.due("word(1)", board.word(1), 0);
+    check.due("pointer of D", board.register(15), 1);
   }
 
   private static void fetchLeavesDataAlone() {
@@ -232,6 +290,19 @@ public final class MoverTest {
     finish(board);
     check.due("word(51) of the A fetched in the move before", board.word(51), 0x1234);
     check.due("word(52) of the A fetched now", board.word(52), 0x4321);
+  }
+
+  private static void fetchedWordsOfBStay() {
+    SlotBoard board = new SlotBoard();
+    Boards.setFrom(board, 0, 0x1234, 0x4321);
+    Boards.write(board, 10, B, 25, 0x11);
+    finish(board);
+    Boards.write(board, 0, 0, 10, C | D | 0xcc, 14, 100, 15, 50, 23, 0x7777, 25, 0x14);
+    threeSlotsThenWrite(board, 10, B | C | D | 0xcc);
+    check.due("word(50) of DATA B", board.word(50), 0x7777);
+    finish(board);
+    check.due("word(51) of the B fetched in the move before", board.word(51), 0x1234);
+    check.due("word(52) of the B fetched now", board.word(52), 0x4321);
   }
 
   private static void fetchedWordIsNotData() {
@@ -291,6 +362,18 @@ public final class MoverTest {
     for (int i = 0; i < dueOfB.length; i++) check.due("B: word(" + (50 + i) + ")", board.word(50 + i), dueOfB[i]);
   }
 
+  /** The mask changes between the slot that fetches A and the word's last. */
+  private static void firstMaskOfTheLastSlotCounts() {
+    SlotBoard board = new SlotBoard();
+    Boards.setFrom(board, 0, 65535, 65535, 65535);
+    Boards.write(board, 20, 0x0ff0, 21, 65535, 10, A | D | 0xf0, 15, 50, 25, 0x31);
+    threeSlotsThenWrite(board, 20, 0x00ff);
+    check.due("word(50)", board.word(50), 0x0ff0);
+    finish(board);
+    check.due("word(51)", board.word(51), 0x00ff);
+    check.due("word(52)", board.word(52), 0x00ff);
+  }
+
   private static void pointersCountInEachSlot() {
     SlotBoard board = new SlotBoard();
     Boards.write(board, 24, 9, 10, D | 0xaa, 15, 254, 25, 0x15);
@@ -325,6 +408,16 @@ public final class MoverTest {
     check.due("word(51), with nothing shifted in", board.word(51), 1);
     check.due("word(52)", board.word(52), 0x8002);
     check.due("word(53)", board.word(53), 0);
+  }
+
+  private static void beginsAnewWithTheFirstRow() {
+    SlotBoard board = new SlotBoard();
+    Boards.write(board, 10, D | 0xff, 25, 0x51);
+    threeSlotsThenWrite(board, 27, 3, 25, 0x41);
+    check.due("look(2)", board.look(2), 1);
+    check.due("look(0)", board.look(0), 0);
+    check.due("slots", finish(board), 4);
+    check.due("register(15)", board.register(15), 7);
   }
 
   private static void stopsWhileMoverIsOff() {
@@ -369,6 +462,18 @@ public final class MoverTest {
         check.due("pointer " + channel + " of channels " + used, board.register(12 + channel),
             100 + channel + grown & 255);
       }
+    }
+  }
+
+  /** A and D are used in the row's first word, only B is in its last slot. */
+  private static void modulosOfTheLastSlotCount() {
+    SlotBoard board = new SlotBoard();
+    Boards.write(board, 16, 10, 17, 20, 18, 30, 19, 40, 10, A | D, 25, 0x12);
+    threeSlotsThenWrite(board, 10, B);
+    check.due("slots", finish(board), 1);
+    int[] due = {2, 21, 0, 1};
+    for (int channel = 0; channel < 4; channel++) {
+      check.due("pointer " + channel, board.register(12 + channel), due[channel]);
     }
   }
 

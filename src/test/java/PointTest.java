@@ -14,6 +14,14 @@ public final class PointTest {
     oneLineOnly();
     modulosOfBothAtTheLastFetch();
     basesCountAtTheFrame();
+    basesWrittenRoundTheFrame();
+    basesCountWhilePlanesIsOff();
+    planesSwitchedAtEachClock();
+    addressesOfPlanesGoRound();
+    moduloGoesRound();
+    moduloOfTheLastFetchCounts();
+    coloursHaveTwelveBits();
+    highestBitComesFirst();
     check.end();
   }
 
@@ -191,5 +199,128 @@ public final class PointTest {
     Boards.runTo(board, Boards.place(5, 0));
     // Plane 0 at 100 and 101, plane 1 at 255 and, behind the last address, 0.
     dueLine(board, 0, 2, 3);
+  }
+
+  /** A base written in the last slot of a frame counts in the next, one written at clock 1 does not. */
+  private static void basesWrittenRoundTheFrame() {
+    int[] places = {639, 1};
+    for (int place : places) {
+      SlotBoard board = boardWithColours(0, 1);
+      board.set(100, 65535);
+      Boards.runTo(board, place);
+      check.due("place()", board.place(), place);
+      board.access(2, 3, 100);
+      board.run(1);
+      check.due("register(3)", board.register(3), 100);
+      Boards.runTo(board, Boards.place(5, 0));
+      dueLine(board, 0, place == 639 ? 2 : 1, 1);
+    }
+  }
+
+  private static void basesCountWhilePlanesIsOff() {
+    SlotBoard board = boardWithColours(3, 100, 4, 200);
+    board.set(101, 65535);
+    board.set(200, 65535);
+    Boards.runTo(board, 0);
+    board.run(1);
+    Boards.runTo(board, Boards.place(3, 31));
+    Boards.write(board, 0, 1);
+    Boards.runTo(board, Boards.place(5, 0));
+    dueLine(board, 0, 3, 2);
+  }
+
+  /** Switched on in the slot of a clock, the planes have the fetches behind it; switched off, those before. */
+  private static void planesSwitchedAtEachClock() {
+    for (int clock = 9; clock <= 26; clock++) {
+      SlotBoard board = boardWithColours();
+      for (int a = 0; a < 4; a++) board.set(a, 65535);
+      Boards.runTo(board, Boards.place(4, clock));
+      board.access(2, 0, 1);
+      Boards.runTo(board, Boards.place(5, 0));
+      check.due("slots(2), on at " + clock, board.slots(2),
+          oneIf(clock < 11) + oneIf(clock < 15) + oneIf(clock < 19) + oneIf(clock < 23));
+      dueLine(board, 0, 1 + oneIf(clock < 15) + 2 * oneIf(clock < 11), 1 + oneIf(clock < 23) + 2 * oneIf(clock < 19));
+
+      // Where the clock's slot is the planes', the write waits for the next.
+      board = boardWithColours(0, 1);
+      for (int a = 0; a < 4; a++) board.set(a, 65535);
+      Boards.runTo(board, Boards.place(4, clock));
+      board.access(2, 0, 0);
+      Boards.runTo(board, Boards.place(5, 0));
+      check.due("slots(2), off at " + clock, board.slots(2),
+          oneIf(clock >= 11) + oneIf(clock >= 15) + oneIf(clock >= 19) + oneIf(clock >= 23));
+      dueLine(board, 0, 1 + oneIf(clock >= 15) + 2 * oneIf(clock >= 11), 1 + oneIf(clock >= 23) + 2 * oneIf(clock >= 19));
+    }
+  }
+
+  private static int oneIf(boolean condition) { return condition ? 1 : 0; }
+
+  /** Each plane's place comes from 255 to 0 between the words of a line, and between lines. */
+  private static void addressesOfPlanesGoRound() {
+    for (int base = 253; base < 256; base++) {
+      for (int plane = 0; plane < 2; plane++) {
+        SlotBoard board = boardWithColours(0, 1, 3 + plane, base, 4 - plane, 100);
+        board.set(0, 65535);
+        board.run(640);
+        Boards.runTo(board, Boards.place(6, 0));
+        int one = 2 + plane;
+        dueLine(board, 0, 1, base == 255 ? one : 1);
+        dueLine(board, 1, base == 254 ? one : 1, base == 253 ? one : 1);
+      }
+    }
+  }
+
+  /** 254 takes both words back, so each line shows the same; 255 takes one back. */
+  private static void moduloGoesRound() {
+    SlotBoard board = boardWithColours(0, 1, 5, 254, 4, 100);
+    board.set(0, 65535);
+    board.set(101, 65535);
+    board.run(640);
+    Boards.runTo(board, 0);
+    for (int y = 0; y < 12; y++) dueLine(board, y, 2, 3);
+
+    board = boardWithColours(0, 1, 5, 255, 3, 254, 4, 100);
+    board.set(0, 65535);
+    board.set(1, 65535);
+    board.run(640);
+    Boards.runTo(board, 0);
+    // Plane 0 at 254 and 255, 255 and 0, 0 and 1, 1 and 2, 2 and 3.
+    dueLine(board, 0, 1, 1);
+    dueLine(board, 1, 1, 2);
+    dueLine(board, 2, 2, 2);
+    dueLine(board, 3, 2, 1);
+    dueLine(board, 4, 1, 1);
+  }
+
+  /** Written at clock 22 the MODULO counts on this line, at clock 24 it does not. */
+  private static void moduloOfTheLastFetchCounts() {
+    for (int clock = 22; clock <= 24; clock += 2) {
+      SlotBoard board = boardWithColours(0, 1);
+      board.set(12, 65535);
+      Boards.runTo(board, Boards.place(4, clock));
+      board.access(2, 5, 10);
+      Boards.runTo(board, Boards.place(6, 0));
+      check.due("register(5)", board.register(5), 10);
+      dueLine(board, 0, 1, 1);
+      dueLine(board, 1, clock == 22 ? 4 : 1, 1);
+    }
+  }
+
+  private static void coloursHaveTwelveBits() {
+    SlotBoard board = new SlotBoard();
+    board.set(0, 0x8000);
+    Boards.write(board, 0, 1, 6, 0xf123, 9, 0xffff);
+    Boards.runTo(board, Boards.place(5, 0));
+    check.due("point(0, 0)", board.point(0, 0), 0xfff);
+    check.due("point(1, 0)", board.point(1, 0), 0x123);
+  }
+
+  private static void highestBitComesFirst() {
+    SlotBoard board = boardWithColours(0, 1, 5, 254);
+    board.set(0, 0x8001);
+    Boards.runTo(board, Boards.place(5, 0));
+    int[] xs = {0, 1, 14, 15, 16, 31};
+    int[] due = {4, 1, 1, 4, 1, 1};
+    for (int i = 0; i < xs.length; i++) check.due("point(" + xs[i] + ", 0)", board.point(xs[i], 0), due[i]);
   }
 }

@@ -11,6 +11,8 @@ public final class RegisterTest {
     writeGivesOneRegisterAWord();
     eachIsItsOwn();
     refusesWrongNumbers();
+    causesHaveNoWord();
+    pointersGoRound();
     check.end();
   }
 
@@ -50,5 +52,38 @@ public final class RegisterTest {
     for (int r = 28; r < 32; r++) Boards.write(board, r, 65535);
     int[] wrong = {-1, 28, 29, 30, 31, 32, Integer.MIN_VALUE, Integer.MAX_VALUE};
     for (int r : wrong) check.due("register(" + r + ")", board.register(r), -1);
+  }
+
+  private static void causesHaveNoWord() {
+    SlotBoard board = new SlotBoard();
+    Boards.write(board, 25, 0x77, 27, 1, 2, 9);
+    check.due("register(2)", board.register(2), 0);
+    check.due("register(25)", board.register(25), 0);
+    check.due("register(27)", board.register(27), 0);
+    check.due("look(7) of the JUMP", board.look(7), 1);
+    check.due("look(2) of the SIZE", board.look(2), 1);
+    board.run(50);
+    check.due("register(2) later", board.register(2), 0);
+    check.due("register(25) later", board.register(25), 0);
+    check.due("register(27) later", board.register(27), 0);
+  }
+
+  /** One word moved from and to 255, behind which comes 0; then the modulo, which goes round too. */
+  private static void pointersGoRound() {
+    for (int channel = 0; channel < 4; channel++) {
+      SlotBoard board = new SlotBoard();
+      Boards.write(board, 10, 0x100 << channel, 12 + channel, 255, 0, 4, 25, 0x11);
+      board.run(4);
+      check.due("pointer " + channel + " behind 255", board.register(12 + channel), 0);
+      Boards.write(board, 12 + channel, 250, 16 + channel, 5, 25, 0x11);
+      board.run(4);
+      check.due("pointer " + channel + " with its modulo", board.register(12 + channel), 0);
+      Boards.write(board, 12 + channel, 0, 16 + channel, 255, 25, 0x11);
+      board.run(4);
+      check.due("pointer " + channel + " taken back", board.register(12 + channel), 0);
+      Boards.write(board, 12 + channel, 255, 16 + channel, 255, 25, 0x11);
+      board.run(4);
+      check.due("pointer " + channel + " forth and back", board.register(12 + channel), 255);
+    }
   }
 }

@@ -7,6 +7,8 @@ public final class RunTest {
     countsSlotsOfNone();
     countsOnlyItsOwn();
     longestRun();
+    refusedRunBeginsNoFrame();
+    longestLife();
     placeGoesOverTheFrame();
     framesBegin();
     check.end();
@@ -54,6 +56,28 @@ public final class RunTest {
     check.due("slots(1)", board.slots(1), 44);
   }
 
+  private static void refusedRunBeginsNoFrame() {
+    SlotBoard board = new SlotBoard();
+    check.due("run(0)", board.run(0), -1);
+    check.due("run(701)", board.run(701), -1);
+    check.due("frames() behind refused runs", board.frames(), 0);
+    check.due("look(0) behind refused runs", board.look(0), 0);
+    check.due("place() behind refused runs", board.place(), 0);
+    for (int owner = 0; owner < 6; owner++) check.due("slots(" + owner + ")", board.slots(owner), 0);
+  }
+
+  /** 512 calls, the most that an object is used for, 508 of them the longest run. */
+  private static void longestLife() {
+    SlotBoard board = new SlotBoard();
+    int none = 0;
+    for (int i = 0; i < 508; i++) none += board.run(700);
+    int clocks = 508 * 700;
+    check.due("place()", board.place(), clocks % 640);
+    check.due("frames()", board.frames(), (clocks + 639) / 640);
+    check.due("slots(0)", board.slots(0), none);
+    check.due("slots(1)", board.slots(1), clocks - none);
+  }
+
   private static void placeGoesOverTheFrame() {
     SlotBoard board = new SlotBoard();
     for (int clock = 0; clock < 40; clock++) {
@@ -80,6 +104,7 @@ public final class RunTest {
     check.due("look(0)", board.look(0), 2);
     board.run(1);
     check.due("frames() behind place 0 again", board.frames(), 2);
+    check.due("look(0), requested twice", board.look(0), 2);
     Boards.write(board, 27, 2);
     check.due("look(0) cleared", board.look(0), 0);
     Boards.runTo(board, 0);

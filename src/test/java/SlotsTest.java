@@ -10,9 +10,13 @@ public final class SlotsTest {
     listHasEvenClocks();
     processorGetsEachFourth();
     processorWithoutLossStartsAnew();
+    planesDoNotBreakALoss();
+    slotThatTheProcessorGetsEndsALoss();
     moverFirst();
+    firstWithoutAMoverThatWants();
     moverTakesWhatTheProcessorLeaves();
     eachControlBitSwitchesItsOwn();
+    lastClocksOfALine();
     allTogetherMakeAFrame();
     check.end();
   }
@@ -97,12 +101,49 @@ public final class SlotsTest {
     check.due("another", Boards.owners(board, 5), "mmmcm");
   }
 
+  private static void planesDoNotBreakALoss() {
+    SlotBoard board = new SlotBoard();
+    Boards.write(board, 10, 256, 0, 5);
+    Boards.runTo(board, Boards.place(4, 8));
+    Boards.write(board, 25, 0);
+    for (int i = 0; i < 3; i++) board.access(1, 0, 0);
+    check.due("owners from clock 9 on", Boards.owners(board, 16), "mmpmcmpmmcpmmmpc");
+  }
+
+  /**
+   * The processor loses two slots, gets some while the mover has ended, and loses two more to the move
+   * that the list begins: the first two count no more, so it gets none between these.
+   */
+  private static void slotThatTheProcessorGetsEndsALoss() {
+    SlotBoard board = new SlotBoard();
+    Boards.setFrom(board, 0, 25 << 1, 0x12, 29 << 1, 0, 25 << 1, 0x12, 0xffff, 0);
+    Boards.write(board, 0, 6);
+    Boards.runTo(board, 0);
+    board.run(5);
+    for (int i = 0; i < 8; i++) board.access(1, 0, 0);
+    // The list's words come at clocks 4, 6, 8 and so on: it begins the mover at 6 and at 14.
+    check.due("owners from clock 5 on", Boards.owners(board, 17), "clmlmlclclmlmlccc");
+  }
+
   private static void moverFirst() {
     SlotBoard board = new SlotBoard();
     Boards.write(board, 10, 256, 0, 12);
     Boards.runTo(board, 10);
     Boards.queue(board, 25, 0x18, 26, 1, 26, 2);
     check.due("owners", Boards.owners(board, 14), "cmmmmmmmmcc---");
+  }
+
+  private static void firstWithoutAMoverThatWants() {
+    SlotBoard board = new SlotBoard();
+    Boards.write(board, 0, 8, 25, 0);
+    Boards.runTo(board, 10);
+    board.access(1, 0, 0);
+    check.due("MOVER is 0", Boards.owners(board, 3), "c--");
+    board = new SlotBoard();
+    Boards.write(board, 0, 12);
+    Boards.runTo(board, 10);
+    board.access(1, 0, 0);
+    check.due("not BUSY", Boards.owners(board, 3), "c--");
   }
 
   private static void moverTakesWhatTheProcessorLeaves() {
@@ -146,6 +187,18 @@ public final class SlotsTest {
     Boards.runTo(board, 10);
     board.access(1, 0, 0);
     return Boards.owners(board, 20);
+  }
+
+  /** The list fetches to clock 30, and then from clock 4 of the next line on, the first behind the last too. */
+  private static void lastClocksOfALine() {
+    SlotBoard board = new SlotBoard();
+    for (int a = 0; a < 256; a++) board.set(a, 60);
+    Boards.write(board, 0, 2, 2, 0);
+    Boards.runTo(board, 28);
+    check.due("from line 0 to line 1", Boards.owners(board, 10), "l-l-r-r-l-");
+    Boards.runTo(board, 636);
+    check.due("from line 19 to line 0", Boards.owners(board, 10), "l-l-r-r-l-");
+    check.due("look(8) behind the frame's first fetch", board.look(8), 1);
   }
 
   private static void allTogetherMakeAFrame() {
