@@ -12,6 +12,7 @@ public final class SlotsTest {
     processorWithoutLossStartsAnew();
     planesDoNotBreakALoss();
     slotThatTheProcessorGetsEndsALoss();
+    nothingElseEndsALoss();
     moverFirst();
     firstWithoutAMoverThatWants();
     moverTakesWhatTheProcessorLeaves();
@@ -123,6 +124,26 @@ public final class SlotsTest {
     for (int i = 0; i < 8; i++) board.access(1, 0, 0);
     // The list's words come at clocks 4, 6, 8 and so on: it begins the mover at 6 and at 14.
     check.due("owners from clock 5 on", Boards.owners(board, 17), "clmlmlclclmlmlccc");
+  }
+
+  /** Neither an access that comes nor a move that begins anew is a slot that the processor got. */
+  private static void nothingElseEndsALoss() {
+    SlotBoard board = new SlotBoard();
+    Boards.write(board, 10, 256, 0, 4, 25, 0);
+    Boards.runTo(board, 20);
+    board.access(1, 0, 0);
+    check.due("two lost", Boards.owners(board, 2), "mm");
+    board.access(1, 0, 0);
+    check.due("with a second access", Boards.owners(board, 6), "mcmmmc");
+
+    board = new SlotBoard();
+    Boards.setFrom(board, 0, 25 << 1, 0, 25 << 1, 0, 0xffff, 0);
+    Boards.write(board, 0, 6);
+    Boards.runTo(board, 0);
+    board.run(7);
+    board.access(1, 0, 0);
+    // The list has begun the mover at clock 6, and begins it anew at clock 10.
+    check.due("owners from clock 7 on", Boards.owners(board, 8), "mlmlmlcl");
   }
 
   private static void moverFirst() {
